@@ -1137,38 +1137,40 @@ public final class ClockChoir {
 
         /** The sign is the step: + - * / % < > = of the last two values. */
         private boolean combine(int sign) {
-            if (depth < 2) {
+            if (depth < 2 || depth > MOST_VALUES) {
                 return false;
             }
             int left = values[depth - 2];
             int right = values[depth - 1];
-            depth -= 2;
             switch (sign) {
-                case '+':
-                    push(left + right);
-                    return true;
-                case '-':
-                    push(left - right);
-                    return true;
-                case '*':
-                    push(left * right);
-                    return true;
                 case '<':
                     truth = left < right;
-                    return true;
+                    break;
                 case '>':
                     truth = left > right;
-                    return true;
+                    break;
                 case '=':
                     truth = left == right;
-                    return true;
+                    break;
+                case '+':
+                    values[depth - 2] = left + right;
+                    break;
+                case '-':
+                    values[depth - 2] = left - right;
+                    break;
+                case '*':
+                    values[depth - 2] = left * right;
+                    break;
                 default:
                     if (right == 0) {
                         return false;
                     }
-                    push(sign == '/' ? left / right : left % right);
-                    return true;
+                    values[depth - 2] = sign == '/' ? left / right : left % right;
+                    break;
             }
+            // A test uses up both values: its answer is in truth.
+            depth -= sign == '<' || sign == '>' || sign == '=' ? 2 : 1;
+            return true;
         }
     }
 
@@ -1622,35 +1624,36 @@ public final class ClockChoir {
                 startAt[i] = stage.singers[i].at;
             }
             for (int i = 0; i < CROWD; i++) {
-                if (stage.singers[i].told && !isDone(stage, i)) {
-                    takeTurn(stage, i);
+                if (stage.singers[i].told && !isDone(stage, i) && goesOn(stage, i)) {
+                    sing(stage.singers[i], score.rolls[i]);
                 }
             }
             stage.tick++;
             return true;
         }
 
-        private void takeTurn(Stage stage, int i) {
+        /** His PHASE goes on; false: he waits, is silent or coughs. */
+        private boolean goesOn(Stage stage, int i) {
             if (!isSinger(i)) {
-                return;
+                return false;
             }
             Singer one = stage.singers[i];
             if (one.waiting) {
                 one.waiting = !allHaveCome(stage, score.rolls[i].fermatasWithin(startAt[i]));
-                return;
+                return false;
             }
             setLetters(stage, i);
             if (score.law.silences(letters)) {
-                return;
+                return false;
             }
             // The DRAW is taken whatever c is, 0 too: the document names no case without one.
             if (stage.draw() < score.law.worth(Law.COUGH, letters)) {
                 coughs++;
-                return;
+                return false;
             }
             int more = one.speed() + score.law.worth(Law.HURRY, letters) - score.law.worth(Law.SLOW, letters);
             one.phase += Math.max(0, more);
-            sing(one, score.rolls[i]);
+            return true;
         }
 
         private boolean allHaveCome(Stage stage, int fermatas) {
@@ -1807,9 +1810,6 @@ public final class ClockChoir {
         void compare(Roll one, Roll other) {
             load(one, other);
             longest = 0;
-            inFirst = 0;
-            inSecond = 0;
-            higher = 0;
             // Where no more sounds are left than the longest row has, no longer one can begin.
             for (int p = 0; p + longest < firstLength; p++) {
                 for (int q = 0; q + longest < secondLength; q++) {
@@ -1852,7 +1852,7 @@ public final class ClockChoir {
         Breather() {
             beats = new int[Roll.MOST];
             ends = new int[Roll.MOST];
-            needed = new int[Roll.MOST + 1];
+            needed = new int[Roll.MOST];
             places = new int[Roll.MOST];
         }
 
@@ -1885,7 +1885,7 @@ public final class ClockChoir {
                     beats[sounds] = 0;
                     sounds++;
                 }
-                if (roll.noteAt(at) != 0 && sounds > 0) {
+                if (sounds > 0 && roll.noteAt(at) != 0) {
                     beats[sounds - 1]++;
                     ends[sounds - 1] = at + 1;
                 }

@@ -71,6 +71,9 @@ public final class ClockTest {
         Due.due("agree(60, 39, 0)", 5, x.agree(60, 39, 0));
         Due.due("agree(60, 40, 1)", 126, x.agree(60, 40, 1));
         Due.due("agree(0, 0, 1)", 126, x.agree(0, 0, 1));
+        x.singer(0, 19, 0, 0, 1);
+        Due.due("0 and 4: the least bits", 1 << 0 | 1 << 4, x.agree(60, 0, 1));
+        x.singer(0, 11, 0, 0, 1);
         // rounded down: behind 30 seconds 40 30 30 39 20 31
         Due.due("agree(30, 0, 1)", 1 << 2 | 1 << 3, x.agree(30, 0, 1));
         // not on a dial: 133333 and 66666 behind 100000 seconds
@@ -109,6 +112,14 @@ public final class ClockTest {
         Due.due("one aside", 2, x.groups(100));
         Due.due("groups(7)", 128, x.groups(7));
         Due.due("leads(7)", 0, x.leads(7));
+        // 1 hears 0 alone and 0 hears 2 alone, who hears nobody.
+        ClockChoir y = new ClockChoir();
+        y.singer(1, 0, 0, 1, 1);
+        y.singer(0, 0, 3, 1, 1);
+        y.singer(2, 0, 6, 3, 1);
+        y.ears(3);
+        Due.due("by 0", 3, y.leads(2));
+        Due.due("1 himself leads nobody", 0, y.leads(1));
         Due.due("groups(4)", -1, x.groups(4));
         Due.due("groups(8)", -1, x.groups(8));
         Due.due("groups(-1)", -1, x.groups(-1));
@@ -135,6 +146,13 @@ public final class ClockTest {
         Due.due("of like DRIFTS none", 2, x.order(1));
         x.singer(7, 20, 0, 0, 1);
         Due.due("7 ahead of all", 6, x.order(1));
+        ClockChoir y = new ClockChoir();
+        y.singer(0, 1, 3, 0, 1);
+        y.singer(1, 0, 4, 0, 1);
+        Due.due("0 by one", 1, y.order(1));
+        y.singer(1, 0, 2, 0, 1);
+        Due.due("0 behind 1", 0, y.order(1));
+        Due.due("OFF THE BEAT by one", 1, y.order(0));
         Due.due("OFF THE BEAT", 29, x.order(0));
     }
 }

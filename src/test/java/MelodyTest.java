@@ -37,6 +37,9 @@ public final class MelodyTest {
         x.ticks(1);
         Due.due("DONE ones and one without a ROLL are silent: c", 1 << 3, x.sounds(0));
         Due.due("none CLASH", 0, x.sounds(1));
+        Due.roll(x, 0, "d");
+        Due.due("0 is heard as the others are: d and c", 1 << 3 | 1 << 4, x.sounds(0));
+        Due.due("and CLASHES", 1, x.sounds(1));
     }
 
     private static void canon() {
@@ -57,6 +60,10 @@ public final class MelodyTest {
         Due.due("canon(-1, 1, 0)", -1, x.canon(-1, 1, 0));
         Due.due("canon(0, 8, 0)", -1, x.canon(0, 8, 0));
         Due.due("no ROLL", 0, x.canon(0, 7, 100));
+        Due.roll(x, 4, "ac");
+        Due.due("by 0 c-b CLASHES", 1, x.canon(4, 1, 0));
+        Due.due("by 1 c-a do not", 1, x.canon(4, 1, 100));
+        Due.due("none then", 0, x.canon(4, 1, 101));
         StringBuilder low = new StringBuilder();
         StringBuilder high = new StringBuilder();
         for (int k = 0; k < 6; k++) {
@@ -134,6 +141,9 @@ public final class MelodyTest {
         Due.due("one more", 0, x.backwards(0, 2));
         Due.roll(x, 3, "aba");
         Due.due("itself", 1, x.backwards(3, 3));
+        Due.roll(x, 4, "abc");
+        Due.due("the first one alone is not so", 0, x.backwards(3, 4));
+        Due.due("the last one alone is not so", 0, x.backwards(4, 3));
         Due.due("backwards(-1, 0)", -1, x.backwards(-1, 0));
         Due.due("backwards(0, 8)", -1, x.backwards(0, 8));
     }
@@ -156,6 +166,10 @@ public final class MelodyTest {
         Due.due("range", 6, x.range(0));
         Due.due("key: of like ones the lowest", 2, x.key(0, 0));
         Due.due("on how many BEATS", 3, x.key(0, 1));
+        Due.roll(x, 0, "ab.b");
+        Due.due("the lowest is first", 1, x.range(0));
+        Due.roll(x, 0, "baa");
+        Due.due("key a", 1, x.key(0, 0));
         Due.roll(x, 0, "g3abab");
         Due.due("key by BEATS", 7, x.key(0, 0));
         Due.due("on how many BEATS", 3, x.key(0, 1));
@@ -186,6 +200,9 @@ public final class MelodyTest {
         for (int k = 0; k < due.length; k++) {
             Due.due("tune(0, " + k + ")", due[k], x.tune(0, k));
         }
+        Due.roll(x, 1, "fa");
+        Due.due("a sound on the first BEAT", 6, x.tune(1, 0));
+        Due.due("a sound on the last BEAT", 1, x.tune(1, 1));
         Due.due("tune(0, a lot)", -2, x.tune(0, Integer.MAX_VALUE));
         Due.due("tune(0, -1)", -1, x.tune(0, -1));
         Due.due("tune(-1, 0)", -1, x.tune(-1, 0));
@@ -215,6 +232,16 @@ public final class MelodyTest {
         dueBreaths(x, 20);
         dueBreaths(x, 1, 1, 2, 3, 4, 5, 6, 7, 8, 9, 10, 11, 12, 13, 14, 15, 16, 17, 18, 19);
         Due.due("the last place that can be asked", -4, x.breaths(0, 1, 59));
+        Due.due("60 sounds", 60, Due.roll(x, 0, "(abcdef)x9abcdef"));
+        Due.due("59 BREATHS", 59, x.breaths(0, 1, 100));
+        Due.due("the last of them", 59, x.breaths(0, 1, 58));
+        Due.due("none behind it", -4, x.breaths(0, 1, 59));
+        dueBreaths(x, 20, 20, 40);
+        Due.roll(x, 0, "a5");
+        Due.due("one sound, too long", -2, x.breaths(0, 4, 100));
+        dueBreaths(x, 5);
+        Due.roll(x, 0, "ab5");
+        Due.due("the last sound is too long", -2, x.breaths(0, 4, 100));
         Due.roll(x, 0, "a^b,c3");
         dueBreaths(x, 3, 2);
         dueBreaths(x, 4, 1);

@@ -103,6 +103,15 @@ public final class SingingTest {
         z.tempo(600);
         z.singer(1, 0, 0, 0, 5);
         Due.due("one without a ROLL is not waited for", 0, z.tried(1, 3));
+
+        ClockChoir w = one(0, 5, "...a^b");
+        w.singer(1, 0, 0, 0, 5);
+        Due.roll(w, 1, "a^b");
+        w.tempo(60);
+        Due.due("1 waits for 0", 1, w.tried(2, 3));
+        Due.due("1 waits for 0 still", 1, w.tried(3, 11));
+        Due.due("both WAIT", 2, w.tried(4, 3));
+        Due.due("none WAITS", 0, w.tried(5, 3));
     }
 
     private static void waitingForThoseWhoHaveSoMany() {
@@ -239,6 +248,11 @@ public final class SingingTest {
         Due.due("t is modulo 100", 53 + 2, phaseBy(x, 3, "ut(1=1)"));
         Due.due("those who are DONE are heard, too: 18 and 3 through 2", 53 + 10, phaseBy(x, 3, "ua(a=10)"));
         Due.due("s in a C", 53, phaseBy(x, 3, "u9(s=1)"));
+
+        ClockChoir z = one(0, 5, "abcd");
+        z.singer(1, 0, 0, 0, 5);
+        Due.roll(z, 1, "abcd");
+        Due.due("0 is heard by 1", 60 + 1, phaseBy(z, 1, "un(1=1)"));
 
         // a is rounded toward 0 ahead of his own AT being taken off.
         ClockChoir y = new ClockChoir();
@@ -445,6 +459,13 @@ public final class SingingTest {
         Due.due("the slower one is the lower one", 3, x.end(9, 1));
         Due.law(x, "x(1=1)");
         Due.due("never", -2, x.end(240, 0));
+
+        ClockChoir y = one(0, 1, "abc");
+        y.singer(7, 0, 0, 0, 1);
+        Due.roll(y, 7, "ab");
+        Due.due("0 is last", 0, y.end(9, 1));
+        Due.roll(y, 7, "abc");
+        Due.due("7 is last", 7, y.end(9, 1));
     }
 
     private static void spread() {
@@ -453,6 +474,10 @@ public final class SingingTest {
         Due.due("fewer than two", 0, x.spread(9));
         x.singer(1, -20, 0, 0, 1);
         Due.due("one is DONE", 0, x.spread(9));
+        Due.roll(x, 1, "ab");
+        x.tempo(600);
+        Due.due("both at the beginning", 0, x.spread(9));
+        x.tempo(60);
         Due.roll(x, 1, "ab");
         // ATs behind each TICK: 1 0, 2 1, 3 2 (1 is DONE then).
         Due.due("spread(1)", 1, x.spread(1));
@@ -511,6 +536,12 @@ public final class SingingTest {
         x.singer(1, -20, 0, 0, 1);
         Due.roll(x, 1, "(a9.)x6");
         Due.due("36000 by 40", 900, x.alone(1));
+        x.singer(1, 7, 0, 0, 1);
+        Due.roll(x, 1, "a");
+        x.tempo(68);
+        Due.due("68 by 67", 2, x.alone(1));
+        x.tempo(67);
+        Due.due("67 by 67", 1, x.alone(1));
     }
 
     private static void together() {

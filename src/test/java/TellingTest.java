@@ -85,6 +85,13 @@ public final class TellingTest {
             Due.due("heard in his SEAT by " + i, seat[i], x.singerIs(i, 9));
         }
         Due.due("ears(15)", true, x.ears(15));
+        ClockChoir y = new ClockChoir();
+        y.singer(0, 0, 4, 2, 1);
+        y.singer(1, 0, 4, 1, 1);
+        y.singer(2, 0, 5, 1, 1);
+        Due.due("DEAF to the right: the same SEAT, not the next one", 2, y.singerIs(0, 9));
+        Due.due("DEAF to the left: the same SEAT, and the next one", 5, y.singerIs(1, 9));
+        Due.due("DEAF to the left: none", 0, y.singerIs(2, 9));
     }
 
     private static void tempos() {

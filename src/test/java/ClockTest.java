@@ -55,6 +55,10 @@ public final class ClockTest {
     private static void agree() {
         ClockChoir x = new ClockChoir();
         Due.due("nobody is told", 0, x.agree(0, 0, 0));
+        ClockChoir y = new ClockChoir();
+        y.singer(0, 5, 0, 0, 1);
+        Due.due("0 alone", 1, y.agree(9, 0, 0));
+        Due.due("0 alone", 1, y.agree(9, 0, 1));
         int[] drifts = {20, 0, 1, 19, -20, 2};
         for (int i = 0; i < drifts.length; i++) {
             x.singer(i + 1, drifts[i], 0, 0, 1);

@@ -242,6 +242,7 @@ public final class MelodyTest {
         dueBreaths(x, 5);
         Due.roll(x, 0, "ab5");
         Due.due("the last sound is too long", -2, x.breaths(0, 4, 100));
+        Due.due("another ROLL, without a sound", 0, x.breaths(1, 4, 100));
         Due.roll(x, 0, "a^b,c3");
         dueBreaths(x, 3, 2);
         dueBreaths(x, 4, 1);

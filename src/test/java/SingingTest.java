@@ -284,6 +284,14 @@ public final class SingingTest {
         for (int k = 0; k < tests.length; k++) {
             Due.due("C " + tests[k], 60 + 5 * holds[k], phaseBy(x, 0, "u5(" + tests[k] + ")"));
         }
+        Due.due("many TESTS, the last holds", 65, phaseBy(x, 0, "u5(" + "2>1&1<2&".repeat(28) + "3=3)"));
+        Due.due("many TESTS, the last does not hold", 60, phaseBy(x, 0, "u5(" + "2>1&1<2&".repeat(28) + "3=4)"));
+        Due.due("many PARTS, the last holds", 65, phaseBy(x, 0, "u5(" + "2<1|1>2|".repeat(28) + "3=3)"));
+        Due.due("many PARTS, none holds", 60, phaseBy(x, 0, "u5(" + "2<1|1>2|".repeat(28) + "3=4)"));
+        String deep = "1+2*[1+2*[1+2*[1+2*[1+2*1]]]]";
+        Due.due("deep on both sides", 65, phaseBy(x, 0, "u5(" + deep + "=" + deep + ")"));
+        Due.due("deep on both sides", 60, phaseBy(x, 0, "u5(" + deep + "=1+" + deep + ")"));
+        Due.due("deep ahead of the (", 60 + 127 % 50, phaseBy(x, 0, "u1+2*[1+2*[1+2*[1+2*[1+2*[1+2*1]]]]]%50(1=1)"));
     }
 
     private static int sumOf(String sum) {
@@ -357,6 +365,17 @@ public final class SingingTest {
         Due.due("1 sings", 540, x.tried(9, 21));
         x.ticks(1);
         Due.due("who is silent draws nothing", 25173 + 13849, x.count(8));
+
+        ClockChoir y = one(0, 5, "abc");
+        y.tempo(600);
+        y.ticks(9);
+        y.tempo(60);
+        Due.law(y, "x(1=1)");
+        Due.due("who is silent sings nothing, whatever his PHASE", 0, y.tried(9, 0));
+        Due.due("his PHASE stays", 540, y.tried(9, 20));
+        Due.law(y, "c10(1=1)");
+        Due.due("who coughs sings nothing, whatever his PHASE", 0, y.tried(9, 0));
+        Due.due("his PHASE stays", 540, y.tried(9, 20));
     }
 
     private static void coughs() {

@@ -5,8 +5,14 @@ import java.util.Arrays;
 final class Due {
     private static int right = 0;
     private static int wrong = 0;
+    private static String sentence = "";
 
     private Due() {
+    }
+
+    /** The words of the document that the answers from here on are due by; told with each wrong one. */
+    static void by(String words) {
+        sentence = words;
     }
 
     static void due(String call, long want, long got) {
@@ -14,7 +20,8 @@ final class Due {
             right++;
         } else {
             wrong++;
-            System.out.println(call + " answered " + got + ", due is " + want);
+            System.out.println(call + " answered " + got + ", due is " + want
+                    + (sentence.isEmpty() ? "" : ", by: " + sentence));
         }
     }
 

@@ -2,9 +2,10 @@ import java.nio.charset.StandardCharsets;
 import java.util.Arrays;
 import java.util.Random;
 
-/** Runs of 512 drawn calls on ClockChoir and on PlainChoir, which must answer alike (seeds are fixed). */
+/** Runs of some 500 drawn calls on ClockChoir and on PlainChoir, which must answer alike (seeds are fixed). */
 public final class RandomRunsTest {
-    private static final int CALLS = 512;
+    // A step makes 14 calls at most, and an object is used for 512.
+    private static final int CALLS = 498;
 
     private final Random random;
     private final ClockChoir x = new ClockChoir();

@@ -18,7 +18,7 @@ public final class RoomTest {
             Due.roll(x, i, "(abcdefga,)x4(abc^.)x5");
         }
         x.tempo(300);
-        int calls = 40;
+        int calls = 64;
         before = made();
         int sum = 0;
         while (calls < 512) {

@@ -13,6 +13,7 @@ public final class EdgesClockTest {
         theLeastBits();
         boundsOfLeads();
         directlyOrByOthers();
+        byEachOther();
         boundsOfGroups();
         groupsBothWays();
         boundsOfOrder();
@@ -32,9 +33,11 @@ public final class EdgesClockTest {
     private static void boundsOfClock() {
         Due.by("CLOCKS: what a told SINGER's shows behind t seconds (0 to 100000); NONE: no such ones.");
         ClockChoir x = drifts(0, 20);
+        ClockChoir slow = drifts(-20);
         for (int t : Edges.around(0, 100000)) {
             boolean can = Edges.within(t, 0, 100000);
             Due.due("clock(0, " + t + ")", can ? t % 43200 : -1, x.clock(0, t));
+            Due.due("a slow clock at " + t, can ? t * 40 / 60 % 43200 : -1, slow.clock(0, t));
         }
         for (int i : Edges.around(0, 7)) {
             Due.due("clock(" + i + ", 60)", i == 0 ? 60 : i == 1 ? 80 : -1, x.clock(i, 60));
@@ -146,6 +149,12 @@ public final class EdgesClockTest {
         // On a dial 43199 and 719 would be far apart.
         Due.due("43199 and 43918", 2, y.agree(43199, 719, 0));
         Due.due("718", 1, y.agree(43199, 718, 0));
+        ClockChoir far = drifts(20, 20, 14);
+        Due.due("133333 twice, and 123333", 2, far.agree(100000, 9999, 0));
+        Due.due("133333 twice", 3, far.agree(100000, 9999, 1));
+        ClockChoir near = drifts(20, 15);
+        Due.due("133333 and 125000", 2, near.agree(100000, 8333, 0));
+        Due.due("133333 and 125000", 1, near.agree(100000, 8332, 0));
         ClockChoir z = drifts(-20, 1);
         Due.due("rounded down: 0 and 1", 1, z.agree(1, 0, 0));
         Due.due("rounded down: 1 and 2", 2, z.agree(2, 1, 0));
@@ -200,6 +209,25 @@ public final class EdgesClockTest {
         Due.due("4 hears nobody: leads(0)", 0b00001110, x.leads(0));
         Due.due("leads(4)", 255 & ~(1 << 4), x.leads(4));
         Due.due("leads(7)", 0b01100000, x.leads(7));
+    }
+
+    private static void byEachOther() {
+        Due.by("directly or by others");
+        // The same row with other numbers: each one is in the middle once, at either end once.
+        for (int first = 0; first < 8; first++) {
+            ClockChoir x = new ClockChoir();
+            x.ears(2);
+            for (int k = 0; k < 8; k++) {
+                x.singer((first + k) % 8, 0, 2 * k, 1, 1);
+            }
+            int before = 0;
+            for (int k = 0; k < 8; k++) {
+                int i = (first + k) % 8;
+                Due.due("leads(" + i + ") in the row from " + first, before, x.leads(i));
+                Due.due("groups(" + i + ")", 1 << i, x.groups(i));
+                before |= 1 << i;
+            }
+        }
     }
 
     private static void boundsOfGroups() {

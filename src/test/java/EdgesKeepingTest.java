@@ -11,6 +11,7 @@ public final class EdgesKeepingTest {
         whoIsDoneThenIsNotWaiting();
         longerRolls();
         drawsComeAgain();
+        allOfASingerIsKept();
         boundsOfCheck();
         checkOfAShortTape();
         theFirstThatIsNotSo();
@@ -193,6 +194,30 @@ public final class EdgesKeepingTest {
         x.seed(77);
         x.undo();
         Due.due("THE SEED told since then", state, x.count(8));
+    }
+
+    private static void allOfASingerIsKept() {
+        Due.by("KEPT: SINGERS, AT, PHASE, BREATH, MISSED, WAITING, THE TICK, X");
+        ClockChoir x = one("ab^c.defg");
+        x.singer(0, 9, 0, 0, 1);
+        x.singer(1, -9, 3, 2, 7);
+        Due.roll(x, 1, "abcdefg^a");
+        Due.law(x, "b1(1=1)");
+        x.ticks(3);
+        int[] first = {2, 0, 0, 1, 1, 0};
+        int[] second = {2, 33, 5, 0, 0, 0};
+        x.keep();
+        for (int turn = 0; turn < 2; turn++) {
+            for (int what = 3; what <= 8; what++) {
+                Due.due("singerIs(0, " + what + ")", first[what - 3], x.singerIs(0, what));
+                Due.due("singerIs(1, " + what + ")", second[what - 3], x.singerIs(1, what));
+            }
+            x.ticks(20);
+            Due.due("he goes on", 8, x.singerIs(0, 3));
+            Due.due("and MISSES more", true, x.singerIs(0, 6) > 1);
+            x.anew();
+            x.undo();
+        }
     }
 
     private static void boundsOfCheck() {

@@ -19,6 +19,7 @@ public final class EdgesLawTest {
         breathLeft();
         tickModulo100();
         askedAsWhenTheTickBegan();
+        askedWithX();
         fiveDigits();
         thirtyTwoBits();
         leastNumberDivided();
@@ -28,6 +29,7 @@ public final class EdgesLawTest {
         refusedWorthIsNought();
         asMuchAsMatters();
         partsAndTests();
+        asManyAsFit();
         Due.finish("EdgesLawTest");
     }
 
@@ -321,6 +323,26 @@ public final class EdgesLawTest {
         Due.due("p as when the TICK began", 20, y.tried(1, 30));
     }
 
+    private static void askedWithX() {
+        Due.by("u, v, c asked with x");
+        // Two BEATS in a TICK: what u, v and c are is asked once, by BREATH and NOTE ahead of both.
+        ClockChoir x = one(0, 9, "abcdefg");
+        x.ticks(2);
+        x.tempo(60);
+        Due.law(x, "u30(l=9&k=1);u60(l<9);b1(1=1)");
+        Due.due("BEATS of 120, 60 and 30", 3, x.tried(1, 0));
+        Due.due("PHASE", 30, x.tried(1, 20));
+        Due.law(x, "v30(l=9&k=1);v60(l<9);b1(1=1)");
+        Due.due("BEATS of 120, 60 less 30", 2, x.tried(1, 0));
+        Due.due("PHASE", 30, x.tried(1, 20));
+        Due.law(x, "c10(l<9);b1(1=1)");
+        Due.due("BEATS of 120 and 60", 3, x.tried(1, 0));
+        Due.due("coughs", 0, x.tried(1, 2));
+        Due.due("in the next TICK", 1, x.tried(2, 2));
+        Due.law(x, "x(l<9);b1(1=1)");
+        Due.due("BEATS of 120 and 60", 3, x.tried(9, 0));
+    }
+
     private static void fiveDigits() {
         Due.by("a number of one to five digits");
         ClockChoir x = one(0, 1, "a");
@@ -436,6 +458,25 @@ public final class EdgesLawTest {
         dueHolds(x, 0, "(1=1|1/0=0)&1/0=0|1=1", false);
     }
 
+    private static void asManyAsFit() {
+        Due.by("a TEXT of at most 240 bytes");
+        ClockChoir x = one(0, 1, "a");
+        for (String sign : new String[] {"<", ">", "="}) {
+            String yes = sign.equals("<") ? "0<1" : sign.equals(">") ? "1>0" : "1=1";
+            String no = sign.equals("<") ? "1<0" : sign.equals(">") ? "0>1" : "0=1";
+            dueHolds(x, 0, (yes + "&").repeat(57) + yes, true);
+            dueHolds(x, 0, (yes + "&").repeat(57) + no, false);
+            dueHolds(x, 0, (no + "|").repeat(57) + yes, true);
+            dueHolds(x, 0, (no + "|").repeat(57) + no, false);
+        }
+        dueHolds(x, 0, "1+".repeat(114) + "1=115", true);
+        dueHolds(x, 0, "1*".repeat(113) + "7*1=7", true);
+        dueHolds(x, 0, "115=" + "1+".repeat(114) + "1", true);
+        String deep = "1+2*[1+2*[1+2*[1+2*[1+2*1]]]]";
+        dueHolds(x, 0, deep + "=63&63=" + deep + "&" + deep + "=" + deep, true);
+        Due.due("the deepest E", 60 + 27, more(x, 0, "u1+2*[1+2*[1+2*[1+2*[1+2*[1+2*[1+2*1]]]]]]-228(1=1)"));
+    }
+
     private static void partsAndTests() {
         Due.by("C: PARTS with a | between two, one of which must hold; a PART: TESTS with an & between two, all of which must");
         for (int bits = 0; bits < 16; bits++) {
@@ -450,6 +491,24 @@ public final class EdgesLawTest {
             dueHolds(x, 0, t[0] + "|" + t[1] + "&" + t[2] + "|" + t[3], is[0] || is[1] && is[2] || is[3]);
             dueHolds(x, 0, "(" + t[0] + "|" + t[1] + ")&(" + t[2] + "|" + t[3] + ")", (is[0] || is[1]) && (is[2] || is[3]));
             dueHolds(x, 0, "!" + t[0] + "&" + t[1] + "|!(" + t[2] + "|" + t[3] + ")", !is[0] && is[1] || !(is[2] || is[3]));
+        }
+        for (int bits = 0; bits < 16; bits++) {
+            ClockChoir x = one(0, 1, "a");
+            String t = "";
+            String either = "";
+            for (int k = 0; k < 4; k++) {
+                String test = (bits >> k & 1) != 0 ? "0=0" : "0=1";
+                t += (k == 0 ? "" : "&") + test;
+                either += (k == 0 ? "" : "|") + test;
+            }
+            dueHolds(x, 0, t, bits == 15);
+            dueHolds(x, 0, either, bits != 0);
+            dueHolds(x, 0, t + "|0=1", bits == 15);
+            dueHolds(x, 0, t + "|0=0", true);
+            dueHolds(x, 0, "!(" + t + ")", bits != 15);
+            dueHolds(x, 0, "!(" + either + ")", bits == 0);
+            dueHolds(x, 0, "(" + either + ")&0=1", false);
+            dueHolds(x, 0, "(" + either + ")&0=0", bits != 0);
         }
         Due.by("a TEST: !TEST, (C), or E");
         ClockChoir x = one(0, 1, "a");

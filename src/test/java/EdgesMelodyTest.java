@@ -20,6 +20,7 @@ public final class EdgesMelodyTest {
         theFirstThere();
         higherAndLower();
         theWholeTuneReturns();
+        rowsEndWithTheirTunes();
         boundsOfBackwards();
         backwardsOfNone();
         backwardsOfSome();
@@ -293,6 +294,21 @@ public final class EdgesMelodyTest {
         dueReturns(x, 3, 0, 54, 0, 0, -6);
     }
 
+    private static void rowsEndWithTheirTunes() {
+        Due.by("the longest row of sounds in the TUNE of one");
+        ClockChoir x = rolls("abcdefg", "ab", "abc", "bcdefg", "fg", "g");
+        int[] sounds = {7, 2, 3, 6, 2, 1};
+        for (int i = 0; i < sounds.length; i++) {
+            for (int j = 0; j < sounds.length; j++) {
+                // Longer TUNES were asked ahead of it: of these nothing may be left.
+                Due.due("long ones", 7, x.returns(0, 0, 0));
+                Due.due("returns(" + i + ", " + j + ", 0)", Math.min(sounds[i], sounds[j]), x.returns(i, j, 0));
+                Due.due("returns(" + i + ", " + j + ", 1)", 0, x.returns(i, j, 1));
+                Due.due("returns(" + i + ", " + j + ", 2)", 0, x.returns(i, j, 2));
+            }
+        }
+    }
+
     private static void boundsOfBackwards() {
         Due.by("BACKWARDS: 1, 0 (none of both has a sound: 1); NONE: no such ones (0 to 7).");
         ClockChoir x = rolls("ab", "ba");
@@ -325,6 +341,12 @@ public final class EdgesMelodyTest {
         Due.due("60 sounds", 1, x.backwards(5, 5));
         Due.due("four", 1, x.backwards(6, 7));
         Due.due("not higher", 0, x.backwards(3, 4));
+        ClockChoir y = rolls("abcd", "dcba", "dcbg", "gcba", "dgba", "dcga");
+        int[] due = {0, 1, 0, 0, 0, 0};
+        for (int j = 0; j < due.length; j++) {
+            Due.due("one alone is not so: backwards(0, " + j + ")", due[j], y.backwards(0, j));
+            Due.due("one alone is not so: backwards(" + j + ", 0)", due[j], y.backwards(j, 0));
+        }
     }
 
     private static void boundsOfRange() {
@@ -468,6 +490,7 @@ public final class EdgesMelodyTest {
                 Due.due("its places", -2, x.breaths(0, beats - 1, what));
                 Due.due("its places", -4, x.breaths(0, beats, what));
             }
+            Due.due("behind it a ROLL without a sound", 0, x.breaths(7, beats - 1, 100));
             Due.due("no such ones all the same", -1, x.breaths(0, beats - 1, 60));
             Due.due("no such ones all the same", -1, x.breaths(0, 0, 0));
         }

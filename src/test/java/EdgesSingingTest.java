@@ -297,6 +297,12 @@ public final class EdgesSingingTest {
         dueSinger(x, 0, 0, 0, 9, 0, 0);
         Due.due("BEATS", 1, x.ticks(1));
         Due.due("X", drawFrom(1), x.count(8));
+        ClockChoir y = one(0, 9, "abcdefg", 600);
+        y.ticks(9);
+        y.tempo(60);
+        Due.law(y, "x(1=1)");
+        Due.due("whatever his PHASE is", 0, y.ticks(9));
+        dueSinger(y, 0, 0, 540, 9, 0, 0);
     }
 
     private static void whoCoughsDoesNothingMore() {
@@ -606,6 +612,10 @@ public final class EdgesSingingTest {
         Due.due("two", 5, x.spread(240));
         Due.roll(x, 4, "a");
         Due.due("the other one is DONE at the end of the first TICK", 0, x.spread(240));
+        ClockChoir y = two("abc", "abc");
+        Due.due("both AT the same", 0, y.spread(240));
+        Due.law(y, "x(1=1)");
+        Due.due("both at the beginning", 0, y.spread(240));
     }
 
     private static void spreadEver() {

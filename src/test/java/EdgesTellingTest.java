@@ -38,6 +38,7 @@ public final class EdgesTellingTest {
         theRulesOwnBracketCounts();
         aNotIsOpenTillItsTestEnds();
         theFirstFaultFromTheLeft();
+        noBlanks();
         Due.finish("EdgesTellingTest");
     }
 
@@ -584,6 +585,24 @@ public final class EdgesTellingTest {
         Due.due("around a ( it is open till the )", -5007, Due.law(x, "x(!!!!(!1=1))"));
         Due.due("around a ( with less", 1, Due.law(x, "x(!!!(!1=1&!1=1))"));
         Due.due("behind the ) it is open no more", 1, Due.law(x, "x(!!!!(1=1)&!!!!!1=1)"));
+    }
+
+    private static void noBlanks() {
+        Due.by("a TEXT of at most 240 bytes, no blanks");
+        ClockChoir x = new ClockChoir();
+        String law = "u1(1=1);x(!s=0)";
+        String roll = "a2^,(.)x2";
+        for (char blank : new char[] {' ', '\t', '\n', 0}) {
+            for (int k = 0; k <= law.length(); k++) {
+                Due.due("a blank at " + k, -1000 - k, Due.law(x, law.substring(0, k) + blank + law.substring(k)));
+            }
+        }
+        Due.by("Told as a TEXT of at most 60 bytes, no blanks");
+        for (char blank : new char[] {' ', '\t', '\n', 0}) {
+            for (int k = 0; k <= roll.length(); k++) {
+                Due.due("a blank at " + k, -1000 - k, Due.roll(x, 0, roll.substring(0, k) + blank + roll.substring(k)));
+            }
+        }
     }
 
     private static void theFirstFaultFromTheLeft() {

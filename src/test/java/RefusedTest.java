@@ -33,6 +33,8 @@ public final class RefusedTest {
         fullTapeIsRefused();
         undoIsRefused();
         aFaultEmptiesTheTapeAlone();
+        memoryIsTheChoirsOwn();
+        theLastCall();
         Due.finish("RefusedTest");
     }
 
@@ -334,6 +336,42 @@ public final class RefusedTest {
         int[] before = state(x);
         Due.due("undo()", false, x.undo());
         dueSame("undo()", before, state(x));
+    }
+
+    private static void memoryIsTheChoirsOwn() {
+        Due.by("All memory is the choir's own.");
+        ClockChoir x = middle();
+        int[] before = state(x);
+        ClockChoir other = new ClockChoir();
+        Due.due("another one is new", 0, other.count(1) + other.count(6) + other.count(7) + other.count(10));
+        other.singer(0, 1, 1, 1, 1);
+        other.ears(1);
+        other.tempo(61);
+        other.seed(1);
+        Due.roll(other, 0, "gg");
+        Due.law(other, "x(1=1)");
+        Due.feed(other, "zzz");
+        other.ticks(9);
+        other.keep();
+        other.anew();
+        dueSame("calls on another one", before, state(x));
+        Due.due("the bytes of the tape", -1, x.check(8));
+        Due.due("undo()", true, x.undo());
+        Due.due("KEPT", 2, x.count(0));
+    }
+
+    private static void theLastCall() {
+        Due.by("An object is used for at most 512 calls after it has been made");
+        ClockChoir x = new ClockChoir();
+        // Thirteen feeds fill the tape, the call behind them empties it.
+        for (int call = 1; call <= 511; call++) {
+            if (call % 14 == 0) {
+                Due.due("check", -1, x.check(8));
+            } else {
+                Due.due("feed", 20 * (call % 14), x.feed(0, 0, 0, 0, 0));
+            }
+        }
+        Due.due("the 512th call", 20 * (511 % 14), x.count(7));
     }
 
     private static void aFaultEmptiesTheTapeAlone() {

@@ -490,6 +490,7 @@ public final class EdgesMelodyTest {
                 Due.due("its places", -2, x.breaths(0, beats - 1, what));
                 Due.due("its places", -4, x.breaths(0, beats, what));
             }
+            Due.due("it can't be", -2, x.breaths(0, beats - 1, 100));
             Due.due("behind it a ROLL without a sound", 0, x.breaths(7, beats - 1, 100));
             Due.due("no such ones all the same", -1, x.breaths(0, beats - 1, 60));
             Due.due("no such ones all the same", -1, x.breaths(0, 0, 0));

@@ -1,4 +1,7 @@
+import java.io.IOException;
 import java.nio.charset.StandardCharsets;
+import java.nio.file.Files;
+import java.nio.file.Path;
 import java.util.Arrays;
 
 /** What every test of the project uses: answers that are due, and texts on the tape. */
@@ -6,13 +9,28 @@ final class Due {
     private static int right = 0;
     private static int wrong = 0;
     private static String sentence = "";
+    private static String document = "";
 
     private Due() {
     }
 
     /** The words of the document that the answers from here on are due by; told with each wrong one. */
     static void by(String words) {
+        sentence = "";
+        due("the document has these words: " + words, true, document().contains(words));
         sentence = words;
+    }
+
+    private static String document() {
+        if (document.isEmpty()) {
+            try {
+                String text = Files.readString(Path.of("../shared/DOC.md"), StandardCharsets.UTF_8);
+                document = text.replaceAll("\\s+", " ");
+            } catch (IOException e) {
+                System.out.println("../shared/DOC.md can't be read");
+            }
+        }
+        return document;
     }
 
     static void due(String call, long want, long got) {

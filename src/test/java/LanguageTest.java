@@ -1,6 +1,8 @@
+import java.lang.reflect.Method;
 import java.nio.charset.StandardCharsets;
 import java.nio.file.Files;
 import java.nio.file.Path;
+import java.util.List;
 import java.util.regex.Matcher;
 import java.util.regex.Pattern;
 
@@ -11,6 +13,8 @@ public final class LanguageTest {
         "double", "float", "String", "StringBuilder", "Integer.MAX_VALUE", "Integer.MIN_VALUE", "Exact", "var",
         "System", "Object", "hashCode", "toString", "volatile", "native", "record",
     };
+
+    private static final List<String> LIBRARY = List.of("Math.abs", "Math.max", "Math.min", "Integer.bitCount");
 
     public static void main(String[] args) throws Exception {
         String source = Files.readString(Path.of("src/main/java/ClockChoir.java"), StandardCharsets.UTF_8);
@@ -27,7 +31,26 @@ public final class LanguageTest {
         Due.due("static fields are final", 0, many(code, "\\bstatic (?!final\\b)\\w+(\\[\\])? \\w+( =|;)"));
         Due.due("loops with an end in their own lines", 0, many(code, "while \\((true|1)|for \\(;;"));
         methods(code);
+        names(code);
+        library(code);
         Due.finish("LanguageTest");
+    }
+
+    /** A class inside has no method with a name of the face either. */
+    private static void names(String code) {
+        for (Method m : ClockChoir.class.getMethods()) {
+            if (m.getDeclaringClass() == ClockChoir.class) {
+                String head = "(void|int|boolean|int\\[\\]|[A-Z]\\w*) " + m.getName() + "\\(";
+                Due.due("methods named " + m.getName(), 1, many(code, head));
+            }
+        }
+    }
+
+    private static void library(String code) {
+        Matcher m = Pattern.compile("\\b(Math|Integer|Long|Arrays|List|Character|Boolean)\\.(\\w+)").matcher(code);
+        while (m.find()) {
+            Due.due("in the list of rule 4: " + m.group(), true, LIBRARY.contains(m.group()));
+        }
     }
 
     private static String bare(String source) {
